@@ -96,7 +96,9 @@ public final class BranTub {
     private static final int[] AS_THEY_LIE = {0, 1, 2, 3, 4};
 
     private final Tape tape = new Tape();
-    private final Parser parser = new Parser();
+    private Fete told = new Fete();
+    private Fete spareFete = new Fete();
+    private final Parser parser = new Parser(tape, spareFete);
     private final Tub tub = new Tub();
     private final Tub spareTub = new Tub();
     private final Tub rowTub = new Tub();
@@ -109,8 +111,6 @@ public final class BranTub {
     private final int[] seen = new int[SEEN];
     private final int[] paysMost = new int[CHILDREN];
     private final int[] refusals = new int[REFUSED_REST + 1];
-    private Fete told = new Fete();
-    private Fete spareFete = new Fete();
     private int drawn = 1;
     private boolean rowKnown;
 
@@ -137,7 +137,7 @@ public final class BranTub {
     }
 
     public int fete() {
-        boolean fine = parser.read(tape, spareFete);
+        boolean fine = parser.read(spareFete);
         tape.length = 0;
         if (!fine) return refuse(REFUSED_FETE);
         Fete old = told;
@@ -653,10 +653,10 @@ public final class BranTub {
         static final int BROKEN = 4;
 
         private final int[] ownWords = new int[WORDS];
-        private Tape tape;
+        private final Tape tape;
         private int next;
         int type;
-        /** A number, a sign's byte, or a word's letters. */
+        /** A number, a sign's byte, or a word's letters, LETTER_BITS each. */
         int value;
         /** The number of an OWN WORD; NONE for all else. */
         int own;
@@ -664,7 +664,8 @@ public final class BranTub {
         /** Where FAULT 1 lies, if the current one can't stand here. */
         int badAt;
 
-        Scanner() {
+        Scanner(Tape text) {
+            tape = text;
             int word = 0;
             int letters = 0;
             int packed = 0;
@@ -681,8 +682,7 @@ public final class BranTub {
             }
         }
 
-        void begin(Tape text) {
-            tape = text;
+        void begin() {
             next = 0;
             type = END;
             advance();
@@ -694,58 +694,47 @@ public final class BranTub {
             while (next < tape.length && (tape.bytes[next] == 10 || tape.bytes[next] == 32)) next++;
             start = next;
             badAt = next;
-            own = NONE;
-            value = NONE;
-            if (next >= tape.length) {
-                type = END;
-                return;
-            }
-            int first = tape.bytes[next];
-            if (isLetter(first)) readWord();
-            else if (isDigit(first)) readNumber();
+            value = 0;
+            int first = next < tape.length ? tape.bytes[next] : NONE;
+            if (first >= 'a' && first <= 'z') readWord();
+            else if (first >= '0' && first <= '9') readNumber();
             else readSign(first);
-            if (behindWord && behind == start && type != SIGN) breakOff(start);
+            boolean glued = behindWord && behind == start;
+            if (glued && type != SIGN && type != END) {
+                type = BROKEN;
+                badAt = start;
+            }
+            own = type == WORD ? ownWordOf(value) : NONE;
         }
 
         boolean isOwn(int word) {
-            return type == WORD && own == word;
+            return own == word;
         }
 
         boolean isSign(int sign) {
             return type == SIGN && value == sign;
         }
 
-        private static boolean isLetter(int c) {
-            return c >= 'a' && c <= 'z';
-        }
-
-        private static boolean isDigit(int c) {
-            return c >= '0' && c <= '9';
-        }
-
         private void readWord() {
             type = WORD;
-            value = 0;
-            while (next < tape.length && isLetter(tape.bytes[next])) {
+            while (next < tape.length && tape.bytes[next] >= 'a' && tape.bytes[next] <= 'z') {
                 int letters = next - start;
                 if (letters == NAME_LETTERS) {
-                    breakOff(next);
+                    type = BROKEN;
+                    badAt = next;
                     return;
                 }
                 value |= (tape.bytes[next] - 'a' + 1) << (LETTER_BITS * letters);
                 next++;
             }
-            for (int word = 0; word < WORDS; word++) {
-                if (ownWords[word] == value) own = word;
-            }
         }
 
         private void readNumber() {
             type = NUMBER;
-            value = 0;
-            while (next < tape.length && isDigit(tape.bytes[next])) {
+            while (next < tape.length && tape.bytes[next] >= '0' && tape.bytes[next] <= '9') {
                 if (next - start == NUMBER_DIGITS) {
-                    breakOff(next);
+                    type = BROKEN;
+                    badAt = next;
                     return;
                 }
                 value = value * 10 + tape.bytes[next] - '0';
@@ -753,36 +742,38 @@ public final class BranTub {
             }
         }
 
-        private void breakOff(int at) {
-            type = BROKEN;
-            badAt = at;
-            own = NONE;
+        private void readSign(int sign) {
+            type = sign == NONE ? END : SIGN;
+            value = sign;
+            if (type == SIGN) next++;
         }
 
-        private void readSign(int sign) {
-            type = SIGN;
-            value = sign;
-            next++;
+        private int ownWordOf(int letters) {
+            for (int word = 0; word < WORDS; word++) {
+                if (ownWords[word] == letters) return word;
+            }
+            return NONE;
         }
     }
 
     /** Reads a text into a Fete, up to its first FAULT. */
     private static final class Parser {
-        private final Scanner scan = new Scanner();
+        private final Scanner scan;
         private Fete fete;
-        private boolean costsTold;
-        private boolean putsTold;
         int fault;
         int place = NONE;
 
-        boolean read(Tape tape, Fete into) {
+        Parser(Tape text, Fete first) {
+            scan = new Scanner(text);
+            fete = first;
+        }
+
+        boolean read(Fete into) {
             fete = into;
             fete.clear();
-            costsTold = false;
-            putsTold = false;
             fault = 0;
             place = NONE;
-            scan.begin(tape);
+            scan.begin();
             for (int n = 0; n <= STATEMENTS; n++) {
                 if (scan.type == Scanner.END) return true;
                 if (!statement()) return false;
@@ -803,19 +794,42 @@ public final class BranTub {
 
         private boolean statement() {
             if (fete.statements == STATEMENTS) return fail(FAULT_MANY, scan.start);
-            if (isOneTooMany(scan.own)) return fail(FAULT_MANY, scan.start);
+            int word = scan.own;
+            if (isOneTooMany(word)) return fail(FAULT_MANY, scan.start);
+            if (!startsStatement(word)) return failForm();
+            scan.advance();
+            int from = fete.stepCount;
             boolean fine;
-            switch (scan.own) {
+            switch (word) {
                 case WORD_KIND: fine = tellKind(); break;
                 case WORD_LAYER: fine = tellLayer(); break;
                 case WORD_CHILD: fine = tellChild(); break;
                 case WORD_LIKES: fine = tellLikes(); break;
-                case WORD_COSTS: fine = tellCosts(); break;
-                case WORD_PUTS: fine = tellPuts(); break;
                 case WORD_PURSE: fine = tellPurse(); break;
-                default: return failForm();
+                case WORD_COSTS:
+                    fine = sum(0);
+                    fete.costsFrom = from;
+                    fete.costsTo = fete.stepCount;
+                    break;
+                default:
+                    fine = test(0);
+                    fete.putsFrom = from;
+                    fete.putsTo = fete.stepCount;
             }
             return fine && passSign(';');
+        }
+
+        private static boolean startsStatement(int word) {
+            switch (word) {
+                case WORD_KIND:
+                case WORD_LAYER:
+                case WORD_CHILD:
+                case WORD_LIKES:
+                case WORD_COSTS:
+                case WORD_PUTS:
+                case WORD_PURSE: return true;
+                default: return false;
+            }
         }
 
         private boolean isOneTooMany(int word) {
@@ -823,14 +837,13 @@ public final class BranTub {
                 case WORD_KIND: return fete.kinds == KINDS;
                 case WORD_LAYER: return fete.layers == LAYERS;
                 case WORD_CHILD: return fete.children == CHILDREN;
-                case WORD_COSTS: return costsTold;
-                case WORD_PUTS: return putsTold;
+                case WORD_COSTS: return fete.costsTo > 0;
+                case WORD_PUTS: return fete.putsTo > 0;
                 default: return false;
             }
         }
 
         private boolean tellKind() {
-            scan.advance();
             int name = newName();
             if (name == NONE || !passOwn(WORD_WORTH)) return false;
             int worth = number(0, 99);
@@ -845,7 +858,6 @@ public final class BranTub {
         }
 
         private boolean tellLayer() {
-            scan.advance();
             // unlike ones: one more than there can be KINDS never passes
             for (int n = 0; n <= KINDS; n++) {
                 if (!tellParcels()) return false;
@@ -869,7 +881,6 @@ public final class BranTub {
         }
 
         private boolean tellChild() {
-            scan.advance();
             int name = newName();
             if (name == NONE || !passOwn(WORD_REACH)) return false;
             int reach = number(1, LAYERS);
@@ -887,7 +898,6 @@ public final class BranTub {
         }
 
         private boolean tellLikes() {
-            scan.advance();
             if (!isName()) return failForm();
             int child = fete.childNamed(scan.value);
             if (child == NONE) return fail(FAULT_NAME_ASKED, scan.start);
@@ -902,26 +912,7 @@ public final class BranTub {
             return true;
         }
 
-        private boolean tellCosts() {
-            scan.advance();
-            costsTold = true;
-            fete.costsFrom = fete.stepCount;
-            boolean fine = sum(0);
-            fete.costsTo = fete.stepCount;
-            return fine;
-        }
-
-        private boolean tellPuts() {
-            scan.advance();
-            putsTold = true;
-            fete.putsFrom = fete.stepCount;
-            boolean fine = test(0);
-            fete.putsTo = fete.stepCount;
-            return fine;
-        }
-
         private boolean tellPurse() {
-            scan.advance();
             int coins = number(0, PURSE_MOST);
             if (coins == NONE) return false;
             fete.purse = coins;
@@ -1116,7 +1107,11 @@ public final class BranTub {
                 if (step >= 0) push(step);
                 else if (step >= -SEEN) push(seen[-1 - step]);
                 else if (step == DO_NOT) push(1 - pop());
-                else pushOfTwo(step);
+                else {
+                    int b = pop();
+                    int a = pop();
+                    push(resultOf(step, a, b));
+                }
             }
             return pop();
         }
@@ -1127,12 +1122,6 @@ public final class BranTub {
 
         private int pop() {
             return height > 0 ? stack[--height] : 0;
-        }
-
-        private void pushOfTwo(int step) {
-            int b = pop();
-            int a = pop();
-            push(resultOf(step, a, b));
         }
 
         private static int resultOf(int step, int a, int b) {
