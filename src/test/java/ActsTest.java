@@ -11,12 +11,14 @@ public final class ActsTest {
         draws();
         touching();
         puttingBack();
+        floorOfMean();
         paying();
         dipsRefused();
         hours();
         puts();
         backs();
         swaps();
+        swapsOfMany();
         afternoons();
         afternoonsComing();
         undoing();
@@ -112,6 +114,17 @@ public final class ActsTest {
             long x = 1;
             for (int i = 0; i < 2; i++) x = (1103515245L * x + 12345L) % (1L << 31);
             due.is("puts " + test, x, other.has(11));
+        }
+    }
+
+    /** The floor of what those within reach are worth to him, not of a dip's worth. */
+    private static void floorOfMean() {
+        for (int mean = 3; mean < 7; mean++) {
+            BranTub tub = Due.tub("kind a worth 5 size 2;kind b worth 1 size 2;layer a 2 b 1;layer a 9;child p reach 1 feels 2 best;likes p b 4;puts mean=" + mean + ";");
+            tub.dip(0);
+            long x = 1;
+            for (int i = 0; i < (mean == 4 ? 4 : 3); i++) x = (1103515245L * x + 12345L) % (1L << 31);
+            due.is("puts mean=" + mean, x, tub.has(11));
         }
     }
 
@@ -245,6 +258,18 @@ public final class ActsTest {
         while (tub.likes(1, 0, 1) == 0) tub.dip(1);
         due.is("like kinds", true, tub.swap(0, 0, 1, 0));
         due.is("as it was", 1, tub.likes(0, 0, 1));
+    }
+
+    /** The second and the third child, the second and the third kind. */
+    private static void swapsOfMany() {
+        BranTub tub = Due.tub("kind a worth 5 size 2;kind b worth 5 size 2;kind c worth 5 size 2;layer a 1;layer b 1;layer c 1;"
+                + "child p reach 1 feels 0 first;child q reach 1 feels 0 first;child r reach 1 feels 0 first;");
+        for (int child = 0; child < 3; child++) tub.dip(child);
+        due.is("swap", true, tub.swap(1, 1, 2, 2));
+        for (int child = 0; child < 3; child++) {
+            int has = child == 0 ? 0 : 3 - child;
+            for (int kind = 0; kind < 3; kind++) due.is("child " + child + " kind " + kind, kind == has ? 1 : 0, tub.likes(child, kind, 1));
+        }
     }
 
     private static void afternoons() {

@@ -53,6 +53,7 @@ public final class FeteTest {
         fine(1, "puts not[1<2 and 3>4]or all;");
         fine(1, "kind abcdef worth 1 size 1;");
         fine(1, "kind firsts worth 1 size 1;");
+        fine(2, "kind z worth 1 size 1;kind zz worth 1 size 1;");
     }
 
     private static void forms() {

@@ -86,6 +86,7 @@ public final class OddsTest {
         due.is("worth 54", 54000, tub.mean(1));
         due.is("has 50", 1, tub.comes(1, 50));
         due.is("not at 51", 0, tub.comes(1, 51));
+        due.is("the purse bounds the price", 50, tub.price(0));
         due.is("price -1", -1, tub.comes(0, -1));
         due.is("price 100", -1, tub.comes(0, 100));
         due.is("child 2", -1, tub.comes(2, 1));
@@ -105,7 +106,7 @@ public final class OddsTest {
             String name = "c" + (char) ('a' + i);
             text.append("child ").append(name).append(" reach 1 feels 0 first;likes ").append(name).append(" a ").append(worths[i]).append(';');
         }
-        return Due.tub(text + "purse 60;");
+        return Due.tub(text + "purse 99;");
     }
 
     private static void price(int price, int takings, int... worths) {
@@ -121,12 +122,15 @@ public final class OddsTest {
         price(0, 0);
         price(0, 0, 0, 0);
         price(10, 10, 10);
-        price(60, 60, 99);
+        price(99, 99, 99);
+        price(1, 1, 1);
+        price(1, 2, 1, 1, 0);
         price(10, 20, 10, 19);
         price(10, 20, 10, 20);
         price(21, 21, 10, 21);
         price(7, 21, 7, 9, 21);
-        price(30, 60, 30, 99);
+        price(99, 99, 30, 99);
+        price(50, 100, 50, 99);
     }
 
     private static void laid(String what, BranTub tub, int child, int worth, int... order) {

@@ -10,6 +10,7 @@ public final class RowsRingsImagesTest {
         leaving();
         rings();
         ringsOfMany();
+        ringsOfEight();
         images();
         imagesOn();
         imagesRefused();
@@ -153,6 +154,19 @@ public final class RowsRingsImagesTest {
         ring("r", tub, 2, 0, 2, 1);
         ring("s", tub, 3, 4, 3, 2);
         ring("t", tub, 4, 3, 4, 2);
+    }
+
+    /** Eight who all want the first's, then the second's, and so on: each keeps his own, one a round. */
+    private static void ringsOfEight() {
+        StringBuilder text = new StringBuilder();
+        int[][] had = new int[8][9];
+        for (int i = 0; i < 8; i++) {
+            text.append("kind k").append((char) ('a' + i)).append(" worth ").append(90 - i).append(" size 1;");
+            text.append("child c").append((char) ('a' + i)).append(" reach 1 feels 0 first;");
+            had[i][1 + i] = 1;
+        }
+        BranTub tub = with(text.toString(), 0, had);
+        for (int child = 0; child < 8; child++) ring("the " + child + ".", tub, child, child, child, child + 1);
     }
 
     private static void octets(BranTub tub, int... want) {
