@@ -216,17 +216,10 @@ public final class ActsTest {
         due.is("refused", 11, tub.status(3));
         due.is("another kind", true, tub.back(0, 1));
         BranTub none = Due.tub("kind a worth 5 size 2;child p reach 2 feels 0 first;");
-        Due.bytes(none, new int[] {0, 0, 0, 0, 9, 0, 3, check(0, 0, 0, 0, 9, 0, 3)});
-        due.is("an image", true, none.on());
+        due.is("an image", true, Due.on(none, 0, 0, 0, 0, 9, 0, 3));
         due.is("has three", 3, none.likes(0, 0, 1));
         due.is("no layers", false, none.back(0, 0));
         due.is("refused", 1, none.status(3));
-    }
-
-    private static int check(int... bytes) {
-        int c = 109;
-        for (int b : bytes) c = (5 * c + b) % 251;
-        return c;
     }
 
     private static void swaps() {
@@ -419,11 +412,9 @@ public final class ActsTest {
         for (int i = 0; i < 5; i++) text.append("layer ka 1;");
         for (int i = 0; i < 8; i++) text.append("child c").append((char) ('a' + i)).append(" reach 5 feels 0 first;");
         BranTub tub = Due.tub(text.toString());
-        int[] image = new int[3 + 40 + 8 * 18 + 1];
+        int[] image = new int[3 + 40 + 8 * 18];
         for (int i = 3; i < 43; i++) image[i] = 99;
-        image[image.length - 1] = check(java.util.Arrays.copyOf(image, image.length - 1));
-        Due.bytes(tub, image);
-        due.is("a full barrel", true, tub.on());
+        due.is("a full barrel", true, Due.on(tub, image));
         due.is("eight rounds", 64, tub.afternoon(8));
         List<Integer> first = keptOf(tub);
         for (int round = 0; round < 3; round++) {

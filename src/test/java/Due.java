@@ -2,16 +2,41 @@
 final class Due {
     private int asked;
     private int wrong;
+    private String sentence = "";
 
     void is(String what, long want, long got) {
         asked++;
         if (want == got) return;
         wrong++;
-        if (wrong <= 40) System.out.println(what + " answered " + got + ", due is " + want);
+        if (wrong <= 40) System.out.println(sentence + what + " answered " + got + ", due is " + want);
     }
 
     void is(String what, boolean want, boolean got) {
         is(what, want ? 1 : 0, got ? 1 : 0);
+    }
+
+    /** The words of the document that the next answers are due by. */
+    void says(String words) {
+        sentence = "<" + words + "> ";
+    }
+
+    /** A text of so many STATEMENTS, without a FAULT. */
+    void fine(int statements, String text) {
+        BranTub tub = new BranTub();
+        is(text, statements, fete(tub, text));
+        is(text + ": fault", 0, tub.fault(0));
+        is(text + ": place", -1, tub.fault(1));
+    }
+
+    /** The FAULT lies at the mark ^, which is no part of the text. */
+    void fault(int what, String marked) {
+        int place = marked.indexOf('^');
+        String text = marked.substring(0, place) + marked.substring(place + 1);
+        BranTub tub = new BranTub();
+        is(marked, -1, fete(tub, text));
+        is(marked + ": fault", what, tub.fault(0));
+        is(marked + ": place", place, tub.fault(1));
+        is(marked + ": refused", 1, tub.status(1));
     }
 
     /** Tells the sum of it, and ends with exit code 1 if an answer was wrong. */
@@ -32,6 +57,32 @@ final class Due {
             if (at == 0) before = length - 20;
         }
         if (bytes.length % 20 != 0) tub.end(before + bytes.length);
+    }
+
+    /** An image with its last byte as it must be. */
+    static int[] sign(int[] image) {
+        int c = 109;
+        for (int i = 0; i < image.length - 1; i++) c = (5 * c + image[i]) % 251;
+        image[image.length - 1] = c;
+        return image;
+    }
+
+    /** Whether the bytes, and a last one as it must be, are an image of the tub's fete: it is on then. */
+    static boolean on(BranTub tub, int... image) {
+        bytes(tub, sign(java.util.Arrays.copyOf(image, image.length + 1)));
+        return tub.on();
+    }
+
+    static int row(BranTub tub, int... bytes) {
+        bytes(tub, bytes);
+        return tub.row();
+    }
+
+    /** So many times one, in which # is a letter from a on. */
+    static String many(int n, String one) {
+        StringBuilder all = new StringBuilder();
+        for (int i = 0; i < n; i++) all.append(one.replace('#', (char) ('a' + i)));
+        return all.toString();
     }
 
     static void text(BranTub tub, String text) {

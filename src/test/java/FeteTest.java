@@ -19,206 +19,182 @@ public final class FeteTest {
         due.close();
     }
 
-    private static void fine(int statements, String text) {
-        BranTub tub = new BranTub();
-        due.is(text, statements, Due.fete(tub, text));
-        due.is(text + ": fault", 0, tub.fault(0));
-        due.is(text + ": place", -1, tub.fault(1));
-    }
-
-    /** The FAULT lies at the mark ^, which is no part of the text. */
-    private static void fault(int what, String marked) {
-        int place = marked.indexOf('^');
-        String text = marked.substring(0, place) + marked.substring(place + 1);
-        BranTub tub = new BranTub();
-        due.is(marked, -1, Due.fete(tub, text));
-        due.is(marked + ": fault", what, tub.fault(0));
-        due.is(marked + ": place", place, tub.fault(1));
-        due.is(marked + ": refused", 1, tub.status(1));
-    }
-
     private static void texts() {
-        fine(0, "");
-        fine(0, " \n ");
-        fine(1, KIND);
-        fine(1, "kind\na\nworth\n0\nsize\n9\n;\n");
-        fine(2, KIND + "layer a 30;");
-        fine(3, KIND + "kind b worth 99 size 1;layer b 1 a 1;");
-        fine(1, "child c reach 5 feels 3 small;");
-        fine(4, "child c reach 1 feels 0 large;" + KIND + "likes c a 0;likes c a 99;");
-        fine(3, "purse 0;purse 999;purse 0999;");
-        fine(1, "costs 9999;");
-        fine(1, "costs min(1,max(hour,left))*(dips-worth)/size%mean+0000;");
-        fine(1, "puts all;");
-        fine(1, "puts not[1<2 and 3>4]or all;");
-        fine(1, "kind abcdef worth 1 size 1;");
-        fine(1, "kind firsts worth 1 size 1;");
-        fine(2, "kind z worth 1 size 1;kind zz worth 1 size 1;");
+        due.fine(0, "");
+        due.fine(0, " \n ");
+        due.fine(1, KIND);
+        due.fine(1, "kind\na\nworth\n0\nsize\n9\n;\n");
+        due.fine(2, KIND + "layer a 30;");
+        due.fine(3, KIND + "kind b worth 99 size 1;layer b 1 a 1;");
+        due.fine(1, "child c reach 5 feels 3 small;");
+        due.fine(4, "child c reach 1 feels 0 large;" + KIND + "likes c a 0;likes c a 99;");
+        due.fine(3, "purse 0;purse 999;purse 0999;");
+        due.fine(1, "costs 9999;");
+        due.fine(1, "costs min(1,max(hour,left))*(dips-worth)/size%mean+0000;");
+        due.fine(1, "puts all;");
+        due.fine(1, "puts not[1<2 and 3>4]or all;");
+        due.fine(1, "kind abcdef worth 1 size 1;");
+        due.fine(1, "kind firsts worth 1 size 1;");
+        due.fine(2, "kind z worth 1 size 1;kind zz worth 1 size 1;");
     }
 
     private static void forms() {
-        fault(1, "^;");
-        fault(1, KIND + "^;");
-        fault(1, "^9");
-        fault(1, "^first a;");
-        fault(1, " ^a worth 5;");
-        fault(1, "^kin a worth 5 size 1;");
-        fault(1, "kind ^7 worth 5 size 1;");
-        fault(1, "kind a ^size 5 size 1;");
-        fault(1, "kind a ^worths 5 size 1;");
-        fault(1, "kind a worth ^size 1;");
-        fault(1, "kind a worth 5 ^; size 1;");
-        fault(1, "kind a worth ^-5 size 1;");
-        fault(1, "kind a worth 5 size 1 ^kind");
-        fault(1, "kind ^Abc worth 5 size 1;");
-        fault(1, "kind a^B worth 5 size 1;");
-        fault(1, "kind a^\tworth 5 size 1;");
-        fault(1, "kind a^\rworth 5 size 1;");
-        fault(1, "kind ^\u00e4 worth 5 size 1;");
-        fault(1, "kind ^\u0000");
-        fault(1, "kind^");
-        fault(1, "kind a worth 5 size 1^");
-        fault(1, "kind a worth 5 size 1 \n ^");
-        fault(1, "kind a worth 5^");
-        fault(1, KIND + "layer ^;");
-        fault(1, KIND + "layer a ^;");
-        fault(1, KIND + "layer a 1 ^1;");
-        fault(1, KIND + "layer a 1 ^size;");
-        fault(1, KIND + "layer a 1^");
-        fault(1, "child c reach 1 feels 0 ^firsts;");
-        fault(1, "child c reach 1 feels 0 ^likes;");
-        fault(1, "child c reach 1 feels 0 ^feels;");
-        fault(1, "child c reach 1 feels 0 ^;");
-        fault(1, "child c reach 1 feels 0 first ^best;");
-        fault(1, KIND + CHILD + "likes ^5;");
-        fault(1, KIND + CHILD + "likes c ^5;");
-        fault(1, KIND + CHILD + "likes c a ^a;");
-        fault(1, "purse ^purse;");
-        fault(1, "purse 1 ^2;");
+        due.fault(1, "^;");
+        due.fault(1, KIND + "^;");
+        due.fault(1, "^9");
+        due.fault(1, "^first a;");
+        due.fault(1, " ^a worth 5;");
+        due.fault(1, "^kin a worth 5 size 1;");
+        due.fault(1, "kind ^7 worth 5 size 1;");
+        due.fault(1, "kind a ^size 5 size 1;");
+        due.fault(1, "kind a ^worths 5 size 1;");
+        due.fault(1, "kind a worth ^size 1;");
+        due.fault(1, "kind a worth 5 ^; size 1;");
+        due.fault(1, "kind a worth ^-5 size 1;");
+        due.fault(1, "kind a worth 5 size 1 ^kind");
+        due.fault(1, "kind ^Abc worth 5 size 1;");
+        due.fault(1, "kind a^B worth 5 size 1;");
+        due.fault(1, "kind a^\tworth 5 size 1;");
+        due.fault(1, "kind a^\rworth 5 size 1;");
+        due.fault(1, "kind ^\u00e4 worth 5 size 1;");
+        due.fault(1, "kind ^\u0000");
+        due.fault(1, "kind^");
+        due.fault(1, "kind a worth 5 size 1^");
+        due.fault(1, "kind a worth 5 size 1 \n ^");
+        due.fault(1, "kind a worth 5^");
+        due.fault(1, KIND + "layer ^;");
+        due.fault(1, KIND + "layer a ^;");
+        due.fault(1, KIND + "layer a 1 ^1;");
+        due.fault(1, KIND + "layer a 1 ^size;");
+        due.fault(1, KIND + "layer a 1^");
+        due.fault(1, "child c reach 1 feels 0 ^firsts;");
+        due.fault(1, "child c reach 1 feels 0 ^likes;");
+        due.fault(1, "child c reach 1 feels 0 ^feels;");
+        due.fault(1, "child c reach 1 feels 0 ^;");
+        due.fault(1, "child c reach 1 feels 0 first ^best;");
+        due.fault(1, KIND + CHILD + "likes ^5;");
+        due.fault(1, KIND + CHILD + "likes c ^5;");
+        due.fault(1, KIND + CHILD + "likes c a ^a;");
+        due.fault(1, "purse ^purse;");
+        due.fault(1, "purse 1 ^2;");
     }
 
     private static void wordsAndNumbers() {
-        fault(1, "kind sevena^b worth 1 size 1;");
-        fault(1, "kindes^t a worth 1 size 1;");
-        fault(1, "kind a worths^s 1 size 1;");
-        fault(1, "purse abcdef^g;");
-        fault(1, "purse 1234^5;");
-        fault(1, "kind 1234^5 worth 1 size 1;");
-        fault(1, "kind a worth 9999^99 size 1;");
-        fault(1, "kind a worth 0000^5 size 1;");
-        fault(1, "kind a worth^1 size 1;");
-        fault(1, "kind a worth^12345 size 1;");
-        fault(1, "kind a worth 1^size 1;");
-        fault(1, "kind a worth 1 size 1;child c reach 1 feels 0^first;");
-        fault(1, "kind a^1 worth 1 size 1;");
-        fault(1, "purse^9;");
-        fault(1, "costs^9;");
-        fault(1, KIND + "layer a^1;");
-        fault(1, KIND + "kind b worth 1 size 1;layer a 1^b 1;");
-        fault(1, "puts 1<2^or all;");
-        fault(1, "puts all or not^1<2;");
-        fault(1, "puts all and^1<2;");
-        fault(1, "costs 1^abcdefg;");
-        fine(1, "puts[1<2]or 1=1 and(2)>1 and not all;");
+        due.fault(1, "kind sevena^b worth 1 size 1;");
+        due.fault(1, "kindes^t a worth 1 size 1;");
+        due.fault(1, "kind a worths^s 1 size 1;");
+        due.fault(1, "purse abcdef^g;");
+        due.fault(1, "purse 1234^5;");
+        due.fault(1, "kind 1234^5 worth 1 size 1;");
+        due.fault(1, "kind a worth 9999^99 size 1;");
+        due.fault(1, "kind a worth 0000^5 size 1;");
+        due.fault(1, "kind a worth^1 size 1;");
+        due.fault(1, "kind a worth^12345 size 1;");
+        due.fault(1, "kind a worth 1^size 1;");
+        due.fault(1, "kind a worth 1 size 1;child c reach 1 feels 0^first;");
+        due.fault(1, "kind a^1 worth 1 size 1;");
+        due.fault(1, "purse^9;");
+        due.fault(1, "costs^9;");
+        due.fault(1, KIND + "layer a^1;");
+        due.fault(1, KIND + "kind b worth 1 size 1;layer a 1^b 1;");
+        due.fault(1, "puts 1<2^or all;");
+        due.fault(1, "puts all or not^1<2;");
+        due.fault(1, "puts all and^1<2;");
+        due.fault(1, "costs 1^abcdefg;");
+        due.fine(1, "puts[1<2]or 1=1 and(2)>1 and not all;");
     }
 
     private static void names() {
-        fault(2, KIND + "kind ^a worth 1 size 1;");
-        fault(2, KIND + "child ^a reach 1 feels 0 first;");
-        fault(2, CHILD + "kind ^c worth 1 size 1;");
-        fault(2, CHILD + "child ^c");
-        fine(2, KIND + "kind ab worth 1 size 1;");
+        due.fault(2, KIND + "kind ^a worth 1 size 1;");
+        due.fault(2, KIND + "child ^a reach 1 feels 0 first;");
+        due.fault(2, CHILD + "kind ^c worth 1 size 1;");
+        due.fault(2, CHILD + "child ^c");
+        due.fine(2, KIND + "kind ab worth 1 size 1;");
         for (String own : ModelText.OWN) {
-            fault(1, "kind ^" + own + " worth 1 size 1;");
-            fault(1, "child ^" + own + " reach 1 feels 0 first;");
-            fault(1, KIND + "layer ^" + own + " 1;");
-            fault(1, KIND + CHILD + "likes ^" + own + " a 1;");
-            fault(1, KIND + CHILD + "likes c ^" + own + " 1;");
+            due.fault(1, "kind ^" + own + " worth 1 size 1;");
+            due.fault(1, "child ^" + own + " reach 1 feels 0 first;");
+            due.fault(1, KIND + "layer ^" + own + " 1;");
+            due.fault(1, KIND + CHILD + "likes ^" + own + " a 1;");
+            due.fault(1, KIND + CHILD + "likes c ^" + own + " 1;");
         }
-        fault(3, "layer ^a 1;" + KIND);
-        fault(3, KIND + "layer a 1 ^b 1;");
-        fault(3, KIND + "layer a 1 ^a 2;");
-        fault(3, KIND + CHILD + "layer ^c 1;");
-        fault(3, KIND + CHILD + "likes ^a c 1;");
-        fault(3, KIND + CHILD + "likes ^d a 1;");
-        fault(3, KIND + CHILD + "likes c ^c 1;");
-        fault(3, KIND + CHILD + "likes c ^ab 1;");
-        fault(3, "likes ^c a 1;" + CHILD + KIND);
+        due.fault(3, "layer ^a 1;" + KIND);
+        due.fault(3, KIND + "layer a 1 ^b 1;");
+        due.fault(3, KIND + "layer a 1 ^a 2;");
+        due.fault(3, KIND + CHILD + "layer ^c 1;");
+        due.fault(3, KIND + CHILD + "likes ^a c 1;");
+        due.fault(3, KIND + CHILD + "likes ^d a 1;");
+        due.fault(3, KIND + CHILD + "likes c ^c 1;");
+        due.fault(3, KIND + CHILD + "likes c ^ab 1;");
+        due.fault(3, "likes ^c a 1;" + CHILD + KIND);
         StringBuilder eight = new StringBuilder();
         StringBuilder layer = new StringBuilder("layer ");
         for (int i = 0; i < 8; i++) {
             eight.append("kind k").append((char) ('a' + i)).append(" worth 1 size 1;");
             layer.append(" k").append((char) ('a' + i)).append(" 1");
         }
-        fine(9, eight.toString() + layer + ";");
-        fault(3, eight.toString() + layer + " ^ka 1;");
-        fault(3, eight.toString() + layer + " ^kz");
-        fault(1, eight.toString() + layer + " ^7");
-        fault(1, eight.toString() + layer + " ^");
+        due.fine(9, eight.toString() + layer + ";");
+        due.fault(3, eight.toString() + layer + " ^ka 1;");
+        due.fault(3, eight.toString() + layer + " ^kz");
+        due.fault(1, eight.toString() + layer + " ^7");
+        due.fault(1, eight.toString() + layer + " ^");
     }
 
     private static void numbers() {
-        fault(4, "kind a worth ^100 size 1;");
-        fault(4, "kind a worth ^9999 size 1;");
-        fault(4, "kind a worth 1 size ^0;");
-        fault(4, "kind a worth 1 size ^10;");
-        fault(4, KIND + "layer a ^0;");
-        fault(4, KIND + "layer a ^31;");
-        fault(4, "child c reach ^0 feels 0 first;");
-        fault(4, "child c reach ^6 feels 0 first;");
-        fault(4, "child c reach 1 feels ^4 first;");
-        fault(4, KIND + CHILD + "likes c a ^100;");
-        fault(4, "purse ^1000;");
-        fault(4, "purse ^9999 1;");
-        fault(4, "kind a worth ^100size 1;");
+        due.fault(4, "kind a worth ^100 size 1;");
+        due.fault(4, "kind a worth ^9999 size 1;");
+        due.fault(4, "kind a worth 1 size ^0;");
+        due.fault(4, "kind a worth 1 size ^10;");
+        due.fault(4, KIND + "layer a ^0;");
+        due.fault(4, KIND + "layer a ^31;");
+        due.fault(4, "child c reach ^0 feels 0 first;");
+        due.fault(4, "child c reach ^6 feels 0 first;");
+        due.fault(4, "child c reach 1 feels ^4 first;");
+        due.fault(4, KIND + CHILD + "likes c a ^100;");
+        due.fault(4, "purse ^1000;");
+        due.fault(4, "purse ^9999 1;");
+        due.fault(4, "kind a worth ^100size 1;");
     }
 
     private static void openings() {
-        fine(1, "costs (((((((1)))))));");
-        fault(5, "costs (((((((^(1))))))));");
-        fault(5, "costs ((((((min(1,^(2)))))))));");
-        fault(5, "costs (((((((min^(1,2))))))));");
-        fine(1, "costs ((((((min(1,2)))))))+((((((max(1,2)))))));");
-        fine(1, "puts not not not not not not not all;");
-        fault(5, "puts not not not not not not not ^not all;");
-        fault(5, "puts [[[[[[[^[all]]]]]]]];");
-        fault(5, "puts not [ not [ not [ not ^[all]]]]");
-        fault(5, "puts not not not not not not [ ^(1) < 2 ]");
-        fine(1, "puts not not not not not not (1) < (2);");
-        fine(1, "puts not not not not not not not all and not not not not not not not all;");
-        fine(1, "puts [not not not not not not all and not not not not not not all or [[[[[[all]]]]]]];");
-        fault(5, "puts not not not not not not not ^[all]");
-        fault(1, "puts not not not not not not not ^]");
-        fault(1, "costs (((((((1^");
-        fault(1, "costs ^[1];");
-        fault(1, "costs ^not 1;");
-        fault(1, "costs (((((((^+(1");
-    }
-
-    private static String many(int n, String one) {
-        StringBuilder all = new StringBuilder();
-        for (int i = 0; i < n; i++) all.append(one.replace('#', (char) ('a' + i)));
-        return all.toString();
+        due.fine(1, "costs (((((((1)))))));");
+        due.fault(5, "costs (((((((^(1))))))));");
+        due.fault(5, "costs ((((((min(1,^(2)))))))));");
+        due.fault(5, "costs (((((((min^(1,2))))))));");
+        due.fine(1, "costs ((((((min(1,2)))))))+((((((max(1,2)))))));");
+        due.fine(1, "puts not not not not not not not all;");
+        due.fault(5, "puts not not not not not not not ^not all;");
+        due.fault(5, "puts [[[[[[[^[all]]]]]]]];");
+        due.fault(5, "puts not [ not [ not [ not ^[all]]]]");
+        due.fault(5, "puts not not not not not not [ ^(1) < 2 ]");
+        due.fine(1, "puts not not not not not not (1) < (2);");
+        due.fine(1, "puts not not not not not not not all and not not not not not not not all;");
+        due.fine(1, "puts [not not not not not not all and not not not not not not all or [[[[[[all]]]]]]];");
+        due.fault(5, "puts not not not not not not not ^[all]");
+        due.fault(1, "puts not not not not not not not ^]");
+        due.fault(1, "costs (((((((1^");
+        due.fault(1, "costs ^[1];");
+        due.fault(1, "costs ^not 1;");
+        due.fault(1, "costs (((((((^+(1");
     }
 
     private static void tooMany() {
-        String kinds = many(8, "kind k# worth 1 size 1;");
-        fine(8, kinds);
-        fault(6, kinds + " ^kind ki worth 1 size 1;");
-        fault(6, kinds + "^kind");
-        fine(6, KIND + many(5, "layer a 1;"));
-        fault(6, KIND + many(5, "layer a 1;") + "^layer a 1;");
-        fine(8, many(8, "child c# reach 1 feels 0 first;"));
-        fault(6, many(8, "child c# reach 1 feels 0 first;") + "\n^child x;");
-        fault(6, "costs 1;^costs 2;");
-        fault(6, "puts all;^puts");
-        fine(2, "puts all;costs 2;");
-        fine(80, many(80, "purse 1;"));
-        fine(80, many(80, "purse 1;") + " \n");
-        fault(6, many(80, "purse 1;") + " ^purse 1;");
-        fault(6, many(80, "purse 1;") + "^costs 1;");
-        fine(80, KIND + CHILD + many(78, "likes c a 9;"));
-        fault(6, KIND + CHILD + many(78, "likes c a 9;") + "^likes c a 9;");
+        String kinds = Due.many(8, "kind k# worth 1 size 1;");
+        due.fine(8, kinds);
+        due.fault(6, kinds + " ^kind ki worth 1 size 1;");
+        due.fault(6, kinds + "^kind");
+        due.fine(6, KIND + Due.many(5, "layer a 1;"));
+        due.fault(6, KIND + Due.many(5, "layer a 1;") + "^layer a 1;");
+        due.fine(8, Due.many(8, "child c# reach 1 feels 0 first;"));
+        due.fault(6, Due.many(8, "child c# reach 1 feels 0 first;") + "\n^child x;");
+        due.fault(6, "costs 1;^costs 2;");
+        due.fault(6, "puts all;^puts");
+        due.fine(2, "puts all;costs 2;");
+        due.fine(80, Due.many(80, "purse 1;"));
+        due.fine(80, Due.many(80, "purse 1;") + " \n");
+        due.fault(6, Due.many(80, "purse 1;") + " ^purse 1;");
+        due.fault(6, Due.many(80, "purse 1;") + "^costs 1;");
+        due.fine(80, KIND + CHILD + Due.many(78, "likes c a 9;"));
+        due.fault(6, KIND + CHILD + Due.many(78, "likes c a 9;") + "^likes c a 9;");
     }
 
     private static void staysAndGoes() {

@@ -55,13 +55,9 @@ public final class OddsTest {
         for (int i = 0; i < 8; i++) text.append("kind k").append((char) ('a' + i)).append(" worth 99 size ").append(i / 2 + 1).append(';');
         for (int i = 0; i < 5; i++) text.append("layer ka 1;");
         BranTub tub = Due.tub(text + "child p reach 5 feels 3 large;child q reach 5 feels 3 small;");
-        int[] image = new int[3 + 40 + 36 + 1];
+        int[] image = new int[3 + 40 + 36];
         for (int i = 3; i < 43; i++) image[i] = 99;
-        int c = 109;
-        for (int i = 0; i < image.length - 1; i++) c = (5 * c + image[i]) % 251;
-        image[image.length - 1] = c;
-        Due.bytes(tub, image);
-        due.is("all full", true, tub.on());
+        due.is("all full", true, Due.on(tub, image));
         due.is("all within reach", 3960, tub.child(0, 6));
         due.is("likely", 125, tub.likely(0, 0));
         // of 4^4 ways the greatest of four sizes is the k-th in k^4 - (k - 1)^4, halved by two kinds

@@ -18,11 +18,6 @@ public final class RowsRingsImagesTest {
         due.close();
     }
 
-    private static int row(BranTub tub, int... bytes) {
-        Due.bytes(tub, bytes);
-        return tub.row();
-    }
-
     private static BranTub barrel() {
         return Due.tub("kind a worth 5 size 2;kind b worth 5 size 2;kind c worth 5 size 2;layer a 1 b 1;layer a 2;layer c 1 b 1;"
                 + "child p reach 1 feels 0 first;child q reach 2 feels 0 first;child r reach 3 feels 0 first;costs 99;purse 0;");
@@ -30,16 +25,16 @@ public final class RowsRingsImagesTest {
 
     private static void rows() {
         BranTub tub = barrel();
-        due.is("one", 1, row(tub, 0, 0));
-        due.is("the second a is out of reach", 1, row(tub, 0, 0, 0, 0));
-        due.is("it comes near", 3, row(tub, 0, 0, 0, 1, 0, 0));
-        due.is("the first can't be: none is", 0, row(tub, 0, 2, 0, 0));
-        due.is("the rest does not count", 1, row(tub, 0, 0, 0, 0, 0, 1));
-        due.is("two layers", 3, row(tub, 1, 0, 1, 0, 1, 0));
-        due.is("all, and no more", 6, row(tub, 2, 2, 2, 1, 2, 1, 2, 0, 2, 0, 2, 0, 2, 0));
+        due.is("one", 1, Due.row(tub, 0, 0));
+        due.is("the second a is out of reach", 1, Due.row(tub, 0, 0, 0, 0));
+        due.is("it comes near", 3, Due.row(tub, 0, 0, 0, 1, 0, 0));
+        due.is("the first can't be: none is", 0, Due.row(tub, 0, 2, 0, 0));
+        due.is("the rest does not count", 1, Due.row(tub, 0, 0, 0, 0, 0, 1));
+        due.is("two layers", 3, Due.row(tub, 1, 0, 1, 0, 1, 0));
+        due.is("all, and no more", 6, Due.row(tub, 2, 2, 2, 1, 2, 1, 2, 0, 2, 0, 2, 0, 2, 0));
         due.is("nothing is left", 0, tub.leaves(0, 0) + tub.leaves(1, 0) + tub.leaves(2, 2));
         int[] twenty = new int[40];
-        due.is("twenty rows", 1, row(tub, twenty));
+        due.is("twenty rows", 1, Due.row(tub, twenty));
         due.is("no purse is asked, nothing is taken", 6, tub.has(4));
         due.is("no act", 0, tub.has(10));
         due.is("none refused", 0, tub.status(5));
@@ -49,14 +44,14 @@ public final class RowsRingsImagesTest {
     private static void rowsRefused() {
         BranTub tub = barrel();
         due.is("no row", -1, tub.row());
-        due.is("an odd one", -1, row(tub, 0, 0, 0));
-        due.is("one byte", -1, row(tub, 0));
-        due.is("twenty-one", -1, row(tub, new int[42]));
-        due.is("forty-one bytes", -1, row(tub, new int[41]));
-        due.is("no child", -1, row(tub, 3, 0));
-        due.is("no kind", -1, row(tub, 0, 3));
-        due.is("no child behind one that can't be", -1, row(tub, 0, 2, 3, 0));
-        due.is("no kind at the end", -1, row(tub, 0, 0, 0, 255));
+        due.is("an odd one", -1, Due.row(tub, 0, 0, 0));
+        due.is("one byte", -1, Due.row(tub, 0));
+        due.is("twenty-one", -1, Due.row(tub, new int[42]));
+        due.is("forty-one bytes", -1, Due.row(tub, new int[41]));
+        due.is("no child", -1, Due.row(tub, 3, 0));
+        due.is("no kind", -1, Due.row(tub, 0, 3));
+        due.is("no child behind one that can't be", -1, Due.row(tub, 0, 2, 3, 0));
+        due.is("no kind at the end", -1, Due.row(tub, 0, 0, 0, 255));
         due.is("refused", 9, tub.status(5));
         due.is("the tape is gone", 20, tub.feed(0, 0, 0, 0, 0));
         due.is("leaves", -1, tub.leaves(0, 0));
@@ -65,7 +60,7 @@ public final class RowsRingsImagesTest {
     private static void leaving() {
         BranTub tub = barrel();
         due.is("ahead of any", -1, tub.leaves(0, 0));
-        row(tub, 1, 0, 1, 0, 2, 2);
+        Due.row(tub, 1, 0, 1, 0, 2, 2);
         due.is("from the uppermost", 0, tub.leaves(0, 0));
         due.is("then the next", 1, tub.leaves(1, 0));
         due.is("left", 1, tub.leaves(0, 1));
@@ -75,9 +70,9 @@ public final class RowsRingsImagesTest {
             due.is("no layer", -1, tub.leaves(no, 0));
             due.is("no kind", -1, tub.leaves(0, no));
         }
-        row(tub, 9, 9);
+        Due.row(tub, 9, 9);
         due.is("a refused one changes nothing", 1, tub.leaves(1, 0));
-        row(tub, 0, 2);
+        Due.row(tub, 0, 2);
         due.is("one of none does", 2, tub.leaves(1, 0));
         tub.put(1, 0, 3);
         tub.undo();
@@ -85,7 +80,7 @@ public final class RowsRingsImagesTest {
         Due.fete(tub, "kind");
         due.is("a text with a fault changes nothing", 2, tub.leaves(1, 0));
         tub.put(0, 0, 1);
-        row(tub, 0, 1);
+        Due.row(tub, 0, 1);
         due.is("as it is now", 2, tub.leaves(0, 0));
         Due.fete(tub, "kind a worth 5 size 2;layer a 1;");
         due.is("another fete", -1, tub.leaves(0, 0));
@@ -102,17 +97,10 @@ public final class RowsRingsImagesTest {
                 image[at++] = n % 256;
             }
         }
-        sign(image);
+        Due.sign(image);
         Due.bytes(tub, image);
         due.is("an image of " + text, true, tub.on());
         return tub;
-    }
-
-    private static int[] sign(int[] image) {
-        int c = 109;
-        for (int i = 0; i < image.length - 1; i++) c = (5 * c + image[i]) % 251;
-        image[image.length - 1] = c;
-        return image;
     }
 
     private static void ring(String what, BranTub tub, int child, int takes, int offer, int round) {
@@ -178,10 +166,10 @@ public final class RowsRingsImagesTest {
     private static void images() {
         BranTub tub = new BranTub();
         due.is("ahead of any", -1, tub.octet(0));
-        octets(tub, sign(new int[4]));
+        octets(tub, Due.sign(new int[4]));
         Due.fete(tub, "kind a worth 5 size 2;kind b worth 5 size 2;layer a 3 b 4;layer b 5;child p reach 1 feels 0 first;child q reach 1 feels 0 first;purse 300;costs 1;");
         due.is("the latest one stays", -1, tub.octet(4));
-        octets(tub, sign(new int[] {0, 0, 0, 3, 4, 0, 5, 1, 44, 0, 0, 0, 0, 1, 44, 0, 0, 0, 0, 0}));
+        octets(tub, Due.sign(new int[] {0, 0, 0, 3, 4, 0, 5, 1, 44, 0, 0, 0, 0, 1, 44, 0, 0, 0, 0, 0}));
         tub.hour();
         tub.seed(3);
         int kind = tub.dip(1);
@@ -189,7 +177,7 @@ public final class RowsRingsImagesTest {
         due.is("the old one stays", 0, tub.octet(0));
         want[3 + kind]--;
         want[16 + 2 * kind]++;
-        octets(tub, sign(want));
+        octets(tub, Due.sign(want));
         for (int no : new int[] {-1, 20, Integer.MAX_VALUE, Integer.MIN_VALUE}) due.is("octet " + no, -1, tub.octet(no));
     }
 
@@ -198,8 +186,8 @@ public final class RowsRingsImagesTest {
         BranTub tub = Due.tub(text);
         tub.dip(0);
         tub.seed(8);
-        row(tub, 0, 0);
-        Due.bytes(tub, sign(new int[] {99, 39, 15, 99, 3, 231, 39, 15, 0}));
+        Due.row(tub, 0, 0);
+        Due.bytes(tub, Due.sign(new int[] {99, 39, 15, 99, 3, 231, 39, 15, 0}));
         due.is("the most of all", true, tub.on());
         due.is("the tape is gone", 20, tub.feed(0, 0, 0, 0, 0));
         tub.end(0);
@@ -216,7 +204,7 @@ public final class RowsRingsImagesTest {
         due.is("worth of them", 49995, tub.child(0, 5));
         due.is("a dip more", 0, tub.dip(0));
         due.is("ten thousand", 10000, tub.has(5));
-        octets(tub, sign(new int[] {99, 39, 16, 98, 3, 231, 39, 16, 0}));
+        octets(tub, Due.sign(new int[] {99, 39, 16, 98, 3, 231, 39, 16, 0}));
         due.is("undo", true, tub.undo());
         due.is("back to the image", 9999, tub.has(5));
         int length = tub.image();
@@ -227,7 +215,7 @@ public final class RowsRingsImagesTest {
         due.is("its own image", true, tub.on());
         due.is("as it was", 99, tub.has(4));
         BranTub none = new BranTub();
-        Due.bytes(none, sign(new int[] {7, 1, 2, 0}));
+        Due.bytes(none, Due.sign(new int[] {7, 1, 2, 0}));
         due.is("of no fete", true, none.on());
         due.is("hour", 7, none.has(3));
         due.is("dips", 258, none.has(5));
@@ -251,21 +239,21 @@ public final class RowsRingsImagesTest {
     }
 
     private static void imagesRefused() {
-        int[] fine = sign(new int[] {9, 0, 7, 3, 0, 50, 0, 1, 0});
+        int[] fine = Due.sign(new int[] {9, 0, 7, 3, 0, 50, 0, 1, 0});
         int[] wrongLast = fine.clone();
         wrongLast[8] = (wrongLast[8] + 1) % 251;
         refusedImage("none");
         refusedImage("another last byte", wrongLast);
         wrongLast[8] = fine[8] + 251 > 255 ? 255 : fine[8] + 251;
         refusedImage("a last byte above 250", wrongLast);
-        refusedImage("too short", sign(Arrays.copyOf(fine, 8)));
-        refusedImage("too long", sign(Arrays.copyOf(fine, 10)));
-        refusedImage("hour 100", sign(new int[] {100, 0, 7, 3, 0, 50, 0, 1, 0}));
-        refusedImage("10000 dips", sign(new int[] {9, 39, 16, 3, 0, 50, 0, 1, 0}));
-        refusedImage("100 parcels", sign(new int[] {9, 0, 7, 100, 0, 50, 0, 1, 0}));
-        refusedImage("purse 1000", sign(new int[] {9, 0, 7, 3, 3, 232, 0, 1, 0}));
-        refusedImage("10000 had", sign(new int[] {9, 0, 7, 3, 0, 50, 39, 16, 0}));
-        refusedImage("65535 had", sign(new int[] {9, 0, 7, 3, 0, 50, 255, 255, 0}));
+        refusedImage("too short", Due.sign(Arrays.copyOf(fine, 8)));
+        refusedImage("too long", Due.sign(Arrays.copyOf(fine, 10)));
+        refusedImage("hour 100", Due.sign(new int[] {100, 0, 7, 3, 0, 50, 0, 1, 0}));
+        refusedImage("10000 dips", Due.sign(new int[] {9, 39, 16, 3, 0, 50, 0, 1, 0}));
+        refusedImage("100 parcels", Due.sign(new int[] {9, 0, 7, 100, 0, 50, 0, 1, 0}));
+        refusedImage("purse 1000", Due.sign(new int[] {9, 0, 7, 3, 3, 232, 0, 1, 0}));
+        refusedImage("10000 had", Due.sign(new int[] {9, 0, 7, 3, 0, 50, 39, 16, 0}));
+        refusedImage("65535 had", Due.sign(new int[] {9, 0, 7, 3, 0, 50, 255, 255, 0}));
     }
 
     private static void status(BranTub tub, int... want) {
