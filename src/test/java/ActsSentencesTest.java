@@ -18,6 +18,7 @@ public final class ActsSentencesTest {
         hours();
         puts();
         backs();
+        backUppermost();
         swaps();
         afternoonRounds();
         afternoonComing();
@@ -26,6 +27,7 @@ public final class ActsSentencesTest {
         undoingEach();
         seeds();
         kept();
+        keptInOrder();
         keptOfOthers();
         due.close();
     }
@@ -117,6 +119,14 @@ public final class ActsSentencesTest {
         due.is("stays", 6, less.child(0, 3));
         BranTub none = Due.tub(ONE + "purse 0;");
         due.is("costs nothing, has nothing", 0, none.dip(0));
+        due.says("and within whose reach a parcel is");
+        BranTub far = Due.tub("kind a worth 5 size 2;layer a 1;layer a 1;layer a 1;" + P);
+        for (int layer = 0; layer < 3; layer++) {
+            due.is("the uppermost that has one", 0, far.dip(0));
+            due.is("is taken from", 0, far.layer(layer, 0));
+            due.is("there are left", 2 - layer, far.has(4));
+        }
+        due.is("none is left", -1, far.dip(0));
         due.says("it costs the SUM of costs, 0 .. 99 (0 without)");
         String[] sums = {"0-1", "0", "1", "98", "99", "100", "9999*9999", "0-9999*9999"};
         int[] paid = {0, 0, 1, 98, 99, 99, 99, 0};
@@ -151,6 +161,11 @@ public final class ActsSentencesTest {
                 BranTub tub = seeded("kind a worth 5 size 2;kind b worth 5 size 2;kind c worth 5 size 2;layer a 1 b 1 c 1;child p reach 1 feels 3 " + rule + ";", seed);
                 due.is(rule + " of like ones, seed " + seed, next(seed) / 64 % 3, tub.dip(0));
             }
+        }
+        due.says("By his RULE he takes of those the first one touched");
+        for (int seed = 0; seed < 30; seed++) {
+            BranTub tub = seeded("kind a worth 9 size 4;kind b worth 1 size 5;kind c worth 5 size 3;layer a 1 b 1 c 1;child p reach 1 feels 3 first;", seed);
+            due.is("the first of four, seed " + seed, next(seed) / 64 % 3, tub.dip(0));
         }
         due.says("the one that is worth most to him; the one of the greatest, of the least size");
         // of two draws each rule takes its kind if it was touched at all
@@ -191,6 +206,30 @@ public final class ActsSentencesTest {
         due.is("19/4", true, lets(mean + "likes p b 4;", "mean=4"));
         due.is("20/4", true, lets(mean + "likes p b 5;", "mean=5"));
         due.is("of a single one", true, lets("kind a worth 5 size 2;layer a 1;" + P, "mean=5"));
+        for (String rule : new String[] {"first", "best", "large", "small"}) {
+            String felt = "kind a worth 9 size 4;kind b worth 1 size 5;layer a 1 b 1;child p reach 1 feels 3 " + rule + ";";
+            BranTub tub = Due.tub(felt + "puts mean=5;");
+            tub.dip(0);
+            due.is("of all within reach, not of those taken, " + rule, next(next(next(next(next(1))))), tub.has(11));
+        }
+        due.says("in puts of the parcel that is taken: what it is worth to the CHILD, its size");
+        for (String asks : new String[] {"worth=1", "size=5"}) {
+            for (int seed = 0; seed < 30; seed++) {
+                BranTub tub = seeded("kind a worth 3 size 4;kind b worth 8 size 5;layer a 1 b 1;child p reach 1 feels 1 best;likes p a 6;likes p b 1;puts " + asks + ";", seed);
+                long second = next(next(seed));
+                boolean bothB = next(seed) / 64 % 2 == 1 && second / 64 % 2 == 1;
+                tub.dip(0);
+                due.is("of what he takes by his RULE, " + asks + ", seed " + seed, bothB ? next(second) : second, tub.has(11));
+            }
+        }
+        due.says("if the TEST of puts holds of it");
+        String ab = "kind a worth 5 size 2;kind b worth 9 size 7;layer a 1 b 1;" + P;
+        for (int seed = 0; seed < 30; seed++) {
+            int first = (int) (next(seed) / 64 % 2);
+            int more = (int) (next(next(seed)) / 64 % 2);
+            due.is("a is let go, seed " + seed, first == 0 ? more : 1, seeded(ab + "puts size=2;", seed).dip(0));
+            due.is("b is let go, seed " + seed, first == 1 ? more : 0, seeded(ab + "puts worth>5;", seed).dip(0));
+        }
         due.says("BOTH { or BOTH }");
         due.is("and binds more", true, lets(ONE, "all or all and not all"));
         due.is("and binds more", true, lets(ONE, "not all and all or all"));
@@ -363,6 +402,25 @@ public final class ActsSentencesTest {
         for (int i = 0; i < 4; i++) due.is("child " + i / 2 + " kind " + i % 2, want[i], second.likes(i / 2, i % 2, 1));
         due.is("it lies uppermost", 1, second.layer(0, 1));
         due.is("nothing else does", 1, second.has(4));
+    }
+
+    private static void backUppermost() {
+        due.says("a CHILD gives a parcel back (into the uppermost LAYER)");
+        BranTub tub = Due.tub("kind a worth 5 size 2;kind b worth 9 size 7;layer a 1;layer b 1;layer a 1;" + P);
+        for (int n = 0; n < 3; n++) tub.dip(0);
+        due.is("all had", 0, tub.has(4));
+        due.is("from the second layer", true, tub.back(0, 1));
+        due.is("into the first", 1, tub.layer(0, 1));
+        due.is("into no other", 0, tub.layer(1, -1) + tub.layer(2, -1));
+        due.is("from the third layer", true, tub.back(0, 0));
+        due.is("and again", true, tub.back(0, 0));
+        due.is("into the first", 2, tub.layer(0, 0));
+        due.is("all are back", 3, tub.layer(0, -1));
+        tub.put(1, 0, 1);
+        for (int n = 0; n < 3; n++) tub.dip(0);
+        due.is("the second has one, the first none", true, tub.layer(0, -1) == 0 && tub.layer(1, -1) == 1);
+        due.is("still into the first", true, tub.back(0, 1));
+        due.is("which has it", 1, tub.layer(0, 1));
     }
 
     private static void swaps() {
@@ -622,6 +680,28 @@ public final class ActsSentencesTest {
             last.dip(child);
             int[] all = {child, 7, 99, 99};
             for (int what = 0; what < 4; what++) due.is("the most of child " + child + ": " + what, all[what], last.kept(child, what));
+        }
+    }
+
+    private static void keptInOrder() {
+        due.says("Of the k-th dip that is told as KEPT, from the oldest on: 0 CHILD, 1 KIND, 2 HOUR, 3 what it cost.");
+        BranTub tub = Due.tub(TWO + "costs 4+dips*3;");
+        int[][] want = new int[2][];
+        int first = tub.dip(1);
+        want[0] = new int[] {1, first, 0, 4};
+        tub.hour();
+        tub.hour();
+        int second = tub.dip(0);
+        want[1] = new int[] {0, second, 2, 7};
+        tub.hour();
+        for (int k = 0; k < 2; k++) {
+            for (int what = 0; what < 4; what++) due.is("dip " + k + ": " + what, want[k][what], tub.kept(k, what));
+        }
+        BranTub whole = Due.tub("kind a worth 9 size 2;layer a 30;" + P + Q);
+        due.is("an afternoon's", 6, whole.afternoon(3));
+        for (int k = 0; k < 6; k++) {
+            due.is("by numbers", k % 2, whole.kept(k, 0));
+            due.is("round by round", k / 2, whole.kept(k, 2));
         }
     }
 

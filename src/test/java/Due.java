@@ -20,6 +20,11 @@ final class Due {
         sentence = "<" + words + "> ";
     }
 
+    /** The words that were said last. */
+    String sentence() {
+        return sentence.substring(1, sentence.length() - 2);
+    }
+
     /** A text of so many STATEMENTS, without a FAULT. */
     void fine(int statements, String text) {
         BranTub tub = new BranTub();

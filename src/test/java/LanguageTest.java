@@ -1,4 +1,6 @@
 import java.io.IOException;
+import java.lang.reflect.Field;
+import java.lang.reflect.Modifier;
 import java.nio.file.Files;
 import java.nio.file.Path;
 import java.util.ArrayList;
@@ -28,7 +30,27 @@ public final class LanguageTest {
         due.is("signs 1 to 127", true, source.chars().allMatch(c -> c > 0 && c < 128));
         due.is("rule 11: classes", true, count(bare, "\\bclass \\w+") <= 12);
         methods(bare);
+        fields(BranTub.class);
+        for (Class<?> inside : BranTub.class.getDeclaredClasses()) {
+            due.is("rule 1: " + inside + " is static, not public or protected", Modifier.STATIC, inside.getModifiers() & (Modifier.STATIC | Modifier.PUBLIC | Modifier.PROTECTED));
+            fields(inside);
+        }
         due.close();
+    }
+
+    /** Some twenty of an object's own; those of the class are final, and numbers, texts or rows of numbers. */
+    private static void fields(Class<?> of) {
+        int own = 0;
+        for (Field field : of.getDeclaredFields()) {
+            boolean ofClass = Modifier.isStatic(field.getModifiers());
+            if (!ofClass) own++;
+            Class<?> type = field.getType().isArray() ? field.getType().getComponentType() : field.getType();
+            due.is("rule 5: " + field, true, !ofClass || Modifier.isFinal(field.getModifiers()) && (type.isPrimitive() || type == String.class));
+            boolean open = (field.getModifiers() & (Modifier.PUBLIC | Modifier.PROTECTED)) != 0;
+            due.is("rule 1: " + field, of == BranTub.class && field.getName().equals("NONE"), open);
+            if (of == BranTub.class && !open) due.is("rule 1: " + field, true, Modifier.isPrivate(field.getModifiers()));
+        }
+        due.is("rule 11: fields of " + of, true, own <= 20);
     }
 
     private static int count(String text, String pattern) {

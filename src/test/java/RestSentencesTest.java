@@ -60,6 +60,24 @@ public final class RestSentencesTest {
         due.is("what can't be ends it", 1, Due.row(tub, 0, 1, 0, 1, 0, 0));
         due.is("the first can't be", 0, Due.row(Due.tub(KINDS + "layer a 1;" + PQ), 0, 1));
         due.is("no layers", 0, Due.row(Due.tub(KINDS + PQ), 0, 0));
+        due.says("A ROW of dips: CHILD, KIND, one behind the other");
+        due.is("child first, then kind", 1, Due.row(tub, 1, 0));
+        due.is("a", 1, tub.leaves(0, 0));
+        due.is("b of the upper layer", 1, tub.leaves(0, 1));
+        due.is("kind 1 by child 0", 1, Due.row(tub, 0, 1));
+        due.is("a", 2, tub.leaves(0, 0));
+        due.is("b of the upper layer", 0, tub.leaves(0, 1));
+        due.is("what is first makes room for what is next", 4, Due.row(tub, 0, 0, 0, 0, 0, 1, 0, 1));
+        due.is("the other way round it does not", 1, Due.row(tub, 0, 1, 0, 1, 0, 0, 0, 0));
+        due.says("how many can be.");
+        for (int first = 0; first < 8; first++) {
+            // the row's dip number first is the one that can't be: no a is left, and b lies too low
+            BranTub some = Due.tub("kind a worth 5 size 2;kind b worth 9 size 7;layer a 20;layer b 30;" + PQ);
+            int[] row = new int[20];
+            row[2 * first + 1] = 1;
+            due.is("up to dip " + first, first, Due.row(some, row));
+            due.is("left then", 20 - first, some.leaves(0, 0));
+        }
         due.says("of a KIND in more LAYERS it is taken from the uppermost one within reach");
         BranTub more = Due.tub("kind a worth 5 size 2;kind b worth 9 size 7;layer b 1;layer a 1;layer a 1;child p reach 2 feels 0 first;child q reach 3 feels 0 first;");
         due.is("two", 2, Due.row(more, 1, 0, 1, 0));
@@ -105,6 +123,11 @@ public final class RestSentencesTest {
             due.is("far off", -1, tub.leaves(no, 0));
             due.is("far off", -1, tub.leaves(0, no));
         }
+        due.says("how many of a KIND a LAYER had left then");
+        BranTub left = Due.tub(TWO);
+        Due.row(left, 1, 1, 0, 0, 1, 1);
+        int[] lefts = {1, 0, 0, 2};
+        for (int i = 0; i < 4; i++) due.is("layer " + i / 2 + " kind " + i % 2, lefts[i], left.leaves(i / 2, i % 2));
         due.says("Of the latest row() of this FETE that was not refused");
         Due.row(tub, 0, 5);
         due.is("a refused one", 1, tub.leaves(0, 0));
@@ -160,6 +183,13 @@ public final class RestSentencesTest {
     }
 
     private static void ringsPointed() {
+        due.says("Round by round those who are left each point at the one of these whose offer is worth most to him");
+        asked(having("likes pa b 8;likes pa c 9;likes pb a 9;likes pc a 9;", a(1, 0, 0), a(0, 1, 0), a(0, 0, 1)), 0, 2, 1, 0);
+        asked(having("likes pa b 9;likes pa c 8;likes pb a 9;likes pc a 9;", a(1, 0, 0), a(0, 1, 0), a(0, 0, 1)), 0, 1, 0, 2);
+        // the one he wanted most has left: in the next round he points at the next best who is left
+        BranTub later = having("likes pa b 9;likes pb a 9;likes pc b 9;likes pc a 8;likes pc c 1;likes pd c 9;likes pd a 8;", a(1, 0, 0), a(0, 1, 0), a(0, 0, 1), a(1, 0, 0));
+        asked(later, 0, 1, 0, 3, 2);
+        asked(later, 2, 1, 1, 2, 2);
         due.says("(himself, if his own is among these; of like others the first)");
         asked(having("", a(0, 1, 0), a(0, 1, 0), a(0, 1, 0)), 0, 0, 1, 2);
         // c is worth most to the first: the second and the third both offer it

@@ -32,6 +32,8 @@ public final class TellSentencesTest {
     }
 
     private static void newObject() {
+        due.says("`NONE = -1`: None; refused.");
+        due.is("NONE", -1, BranTub.NONE);
         due.says("No KINDS, no LAYERS, no CHILDREN; the seed is 1.");
         BranTub tub = new BranTub();
         due.is("kinds", 0, tub.has(0));
@@ -198,6 +200,23 @@ public final class TellSentencesTest {
         int[] want = {3, 2, 4, 1, 4, 2, 8, 80 - 2 - 5, 2, 2, 3};
         for (int what = 0; what < want.length; what++) due.is("has " + what, want[what], tub.has(what));
         due.is("has 11", ((1103515245L * ((1103515245L * ((1103515245L * 9 + 12345) % (1L << 31)) + 12345) % (1L << 31)) + 12345) % (1L << 31)), tub.has(11));
+        due.says("7 coins in purses, 8 parcels that CHILDREN have");
+        BranTub coins = Due.tub(TWO + "costs 3;");
+        int[] left = {40, 37, 34};
+        for (int n = 0; n < 3; n++) {
+            due.is("coins", left[n], coins.has(7));
+            due.is("parcels had", n, coins.has(8));
+            coins.dip(n % 2);
+        }
+        coins.back(0, coins.likes(0, 0, 1) > 0 ? 0 : 1);
+        due.is("coins are not given back", 31, coins.has(7));
+        due.is("a parcel is", 2, coins.has(8));
+        due.says("11 the seed");
+        due.is("at first", 1, new BranTub().has(11));
+        for (int seed : new int[] {0, 7, Integer.MAX_VALUE}) {
+            coins.seed(seed);
+            due.is("as it was put", seed, coins.has(11));
+        }
         due.says("9 dips that are told as KEPT, 10 ACTS that can be undone");
         BranTub many = Due.tub("kind a worth 5 size 2;layer a 30;layer a 30;layer a 30;child p reach 1 feels 0 first;");
         for (int n = 1; n <= 61; n++) {
@@ -394,6 +413,13 @@ public final class TellSentencesTest {
         BranTub one = Due.tub("kind a worth 5 size 2;kind b worth 9 size 7;layer a 1;layer b 1;child p reach 1 feels 3 large;");
         due.is("all of them", 1000, one.likely(0, 0));
         due.is("none of them", 0, one.likely(0, 1));
+        due.says("LIKELY is a KIND that a CHILD touches it first");
+        BranTub felt = Due.tub("kind a worth 5 size 2;kind b worth 9 size 7;layer a 1 b 3;child p reach 1 feels 0 first;child q reach 1 feels 3 first;"
+                + "child r reach 1 feels 3 best;child s reach 1 feels 3 small;");
+        for (int child = 0; child < 4; child++) {
+            due.is("a, by whatever rule", 250, felt.likely(child, 0));
+            due.is("b, by whatever rule", 750, felt.likely(child, 1));
+        }
         due.says("NONE when there are none such, or nothing is WITHIN REACH.");
         noneSuch(true, (t, child, kind) -> t.likely(child, kind));
     }
@@ -436,6 +462,28 @@ public final class TellSentencesTest {
         due.is("80/81", 987, tub.mean(3));
         due.is("of 33^4", (99L * (33L * 33 * 33 * 33 - 81) + 80) * 1000 / (33L * 33 * 33 * 33), tub.mean(4));
         due.is("the most", 99000, tub.mean(5));
+        due.says("what the parcel taken by his RULE from those touched is worth to him");
+        BranTub his = Due.tub("kind a worth 10 size 2;kind b worth 20 size 7;layer a 1 b 1;child p reach 1 feels 1 first;child q reach 1 feels 1 best;"
+                + "child r reach 1 feels 1 large;child s reach 1 feels 1 small;child t reach 1 feels 1 large;likes t a 99;likes t b 0;");
+        int[] worth = {15000, 17500, 17500, 12500, 24750};
+        for (int child = 0; child < 5; child++) due.is("child " + child, worth[child], his.mean(child));
+        due.says("each of them being any one within reach, exactly");
+        BranTub full = Due.tub("kind a worth 0 size 1;kind b worth 98 size 2;kind c worth 99 size 3;" + Due.many(5, "layer a 30 b 30 c 30;")
+                + "child p reach 5 feels 3 best;child q reach 5 feels 3 small;");
+        for (int layer = 0; layer < 5; layer++) {
+            for (int kind = 0; kind < 3; kind++) full.put(layer, kind, kind == 2 ? 29 : 30);
+        }
+        // 300 a, 300 b, 295 c, touched four times
+        long all = 895L * 895 * 895 * 895;
+        long aAlone = 300L * 300 * 300 * 300;
+        long noC = 600L * 600 * 600 * 600;
+        due.is("best", (99 * (all - noC) + 98 * (noC - aAlone)) * 1000 / all, full.mean(0));
+        long noA = 595L * 595 * 595 * 595;
+        long cAlone = 295L * 295 * 295 * 295;
+        due.is("small", (98 * (noA - cAlone) + 99 * cAlone) * 1000 / all, full.mean(1));
+        due.is("takes c", (all - noC) * 1000 / all, full.takes(0, 2));
+        due.is("takes b", (noC - aAlone) * 1000 / all, full.takes(0, 1));
+        due.is("takes a", aAlone * 1000 / all, full.takes(0, 0));
         due.says("(nobody puts back)");
         due.is("puts is not asked", 666, Due.tub("kind a worth 0 size 2;kind b worth 1 size 7;layer a 1 b 2;child p reach 1 feels 0 first;puts worth=0;").mean(0));
         due.says("NONE when there is none such, or nothing is WITHIN REACH.");
@@ -490,6 +538,15 @@ public final class TellSentencesTest {
         prices("of eight", Due.tub(liked(99, 99, 99, 99, 99, 99, 99, 99)), 99, 792);
         prices("for the other alone", Due.tub(liked(40, 90)), 90, 90);
         prices("for both", Due.tub(liked(46, 90)), 46, 92);
+        due.says("TAKINGS of a price: the price times how many COME");
+        BranTub six = Due.tub(liked(10, 20, 30, 40, 50, 60) + "purse 45;");
+        for (int at = 0; at <= 99; at++) {
+            int come = 0;
+            for (int child = 0; child < 6; child++) come += six.comes(child, at);
+            int want = at <= 10 ? 6 : at <= 20 ? 5 : at <= 30 ? 4 : at <= 40 ? 3 : at <= 45 ? 2 : 0;
+            due.is("come at " + at, want, come);
+        }
+        prices("3 at 40, 4 at 30", six, 30, 120);
         due.says("of like ones the least");
         prices("40 twice, 80 once", Due.tub(liked(40, 80)), 40, 80);
         prices("20 thrice, 30 twice, 60 once", Due.tub(liked(60, 30, 20)), 20, 60);

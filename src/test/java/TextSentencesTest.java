@@ -14,6 +14,7 @@ public final class TextSentencesTest {
         purses();
         results();
         divisions();
+        sumsAndTests();
         seenInCosts();
         names();
         numbers();
@@ -226,6 +227,65 @@ public final class TextSentencesTest {
         cost(7, "10+min(0-3,2)");
     }
 
+    private static void sumsAndTests() {
+        due.says("SUM: PRODUCT { + or - PRODUCT }");
+        cost(5, "5");
+        cost(6, "1+2+3");
+        cost(7, "9-3+1");
+        cost(27, "2*3+4*5+1");
+        for (String sign : new String[] {"+", "-", "*", "/", "%"}) {
+            due.fault(1, "costs ^" + sign + "1;");
+            due.fault(1, "costs 1" + sign + "^;");
+            due.fault(1, "costs 1" + sign + "^" + sign + "1;");
+            due.fault(1, "costs 1" + sign + "2^)" + ";");
+            due.fault(1, "puts 1" + sign + "2^;");
+        }
+        due.fault(1, "costs 1 ^2;");
+        due.fault(1, "costs 1^,2;");
+        due.fault(1, "costs 1^=2;");
+        due.says("PRODUCT: PART { * or / or % PART }");
+        cost(24, "2*3*4");
+        cost(8, "12/3*2");
+        cost(6, "17%10*3%8+1");
+        cost(5, "5+2%2");
+        due.says("PART: N; hour; left; dips; worth; size; mean; ( SUM )");
+        cost(21, "3*(2+5)");
+        cost(5, "((5))");
+        cost(14, "left+(left)");
+        cost(1, "1+hour+dips+worth+size+mean");
+        for (String no : new String[] {"()", "[1]", "all", "not 1", "kind", "purse", "a", "<", "1 2"}) {
+            int place = no.equals("()") || no.equals("1 2") ? no.length() - 1 : 0;
+            due.fault(1, "costs 3*" + no.substring(0, place) + "^" + no.substring(place) + ";");
+        }
+        due.fault(1, "costs (1^;");
+        due.fault(1, "costs (1^];");
+        due.fault(1, "costs min ^1;");
+        due.fault(1, "costs min(1^);");
+        due.fault(1, "costs max(1,2^,3);");
+        due.fault(1, "costs max(^,2);");
+        due.says("FACT: not FACT; [ TEST ] ; all");
+        due.fine(1, "puts not not all;");
+        due.fine(1, "puts not[not[all]];");
+        due.fine(1, "puts [all or 1<2 and not all];");
+        due.fine(1, "puts (1)<(2);");
+        due.fault(1, "puts not^;");
+        due.fault(1, "puts [^];");
+        due.fault(1, "puts [all^;");
+        due.fault(1, "puts [all^);");
+        due.fault(1, "puts (^all);");
+        due.fault(1, "puts (1^<2);");
+        due.fault(1, "puts all^=all;");
+        due.fault(1, "puts all ^all;");
+        due.fault(1, "puts 1<2^<3;");
+        due.fault(1, "puts all or^;");
+        due.fault(1, "puts all and^;");
+        due.fault(1, "puts ^or all;");
+        due.fault(1, "puts [all]^<1;");
+        due.fault(1, "puts 1<^[all];");
+        due.fault(1, "puts 1<^not all;");
+        due.fault(1, "puts 1^!1;");
+    }
+
     private static void seenInCosts() {
         due.says("in costs 0 all three");
         cost(0, "worth");
@@ -325,6 +385,8 @@ public final class TextSentencesTest {
     }
 
     private static void ownWords() {
+        due.says("kind, worth, size, layer, child, reach, feels, first, best, large, small, likes, costs, puts, purse, hour, left, dips, mean, or, and, not, all, min, max");
+        due.is("the words that are asked here", true, java.util.Set.of(due.sentence().split(", ")).equals(ModelText.OWN));
         due.says("OWN WORDS, which no NAME is");
         due.is("how many", 25, ModelText.OWN.size());
         for (String own : ModelText.OWN) {
