@@ -10,6 +10,8 @@ public final class ReadmeTest {
     private static final Due due = new Due();
     private static final Pattern STEP = Pattern.compile("new BranTub\\(\\);|write\\(tub, ((?:\"[^\"]*\"[\\s+]*)+)\\);|tub\\.(\\w+)\\(([-\\d, ]*)\\); *// (-?\\w+)");
 
+    private static int asked;
+
     public static void main(String[] args) throws ReflectiveOperationException, IOException {
         String page = Files.readString(Path.of("README.md"));
         Matcher shown = Pattern.compile("(?s)```java\n(.*?)```").matcher(page);
@@ -19,7 +21,8 @@ public final class ReadmeTest {
             blocks++;
             tub = follow(tub, shown.group(1));
         }
-        due.is("blocks", 5, blocks);
+        due.is("blocks", 6, blocks);
+        due.is("calls asked", true, asked > 40);
         writes(page);
         due.close();
     }
@@ -43,6 +46,7 @@ public final class ReadmeTest {
             types[i] = int.class;
             arguments[i] = Integer.valueOf(numbers[i]);
         }
+        asked++;
         Method call = BranTub.class.getMethod(name, types);
         String got = String.valueOf(call.invoke(tub, arguments));
         String shown = got.equals("-1") ? "NONE" : got;
